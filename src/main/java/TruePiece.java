@@ -379,16 +379,16 @@ public final class TruePiece {
     }
 
     void advance() {
-      while (next < length && isBlank(at(next))) {
+      while (next < length && (bytes[next] == ' ' || bytes[next] == '\n')) {
         next++;
       }
       start = next;
-      int c = at(next);
+      int c = next < length ? bytes[next] & 255 : NONE;
       if (c == NONE) {
         kind = END;
-      } else if (isLetter(c)) {
+      } else if (c >= 'a' && c <= 'z') {
         readWord();
-      } else if (isDigit(c)) {
+      } else if (c >= '0' && c <= '9') {
         readNumber();
       } else {
         kind = signs.indexOf((char) c) >= 0 ? c : BROKEN;
@@ -421,54 +421,42 @@ public final class TruePiece {
     }
 
     int takeTable(Store store) {
+      if (kind != NAME) {
+        refuseToken();
+      }
       int table = store.tableNamed(word);
-      if (kind == NAME && table == NONE) {
+      if (table == NONE) {
         refuse(NOT_THERE, start);
       }
-      return take(NAME) ? table : NONE;
+      if (fault != 0) {
+        return NONE;
+      }
+      advance();
+      return table;
     }
 
     private void readWord() {
       word = 0;
-      while (next < length && isLetter(at(next))) {
-        word = word * 32 + (at(next) - 'a' + 1);
+      while (next < length && bytes[next] >= 'a' && bytes[next] <= 'z') {
+        word = word * 32 + (bytes[next] - 'a' + 1);
         next++;
       }
-      kind = next - start > WORD_MOST ? BROKEN : wordKind();
-    }
-
-    private int wordKind() {
+      kind = next - start > WORD_MOST ? BROKEN : NAME;
       for (int i = 0; i < reserved.length; i++) {
-        if (reserved[i] == word) {
-          return TABLE + i;
+        if (kind == NAME && reserved[i] == word) {
+          kind = TABLE + i;
         }
       }
-      return NAME;
     }
 
     private void readNumber() {
       number = 0;
-      while (next < length && isDigit(at(next))) {
-        number = number * 10 + (at(next) - '0');
+      while (next < length && bytes[next] >= '0' && bytes[next] <= '9') {
+        number = number * 10 + (bytes[next] - '0');
         next++;
       }
-      kind = next - start > DIGITS_MOST || isLetter(at(next)) ? BROKEN : NUMBER;
-    }
-
-    private int at(int place) {
-      return place >= 0 && place < length && place < bytes.length ? bytes[place] & 255 : NONE;
-    }
-
-    private static boolean isBlank(int c) {
-      return c == 32 || c == 10;
-    }
-
-    private static boolean isLetter(int c) {
-      return c >= 'a' && c <= 'z';
-    }
-
-    private static boolean isDigit(int c) {
-      return c >= '0' && c <= '9';
+      boolean letterBehind = next < length && bytes[next] >= 'a' && bytes[next] <= 'z';
+      kind = next - start > DIGITS_MOST || letterBehind ? BROKEN : NUMBER;
     }
   }
 
@@ -508,6 +496,7 @@ public final class TruePiece {
     void clear() {
       tables = 0;
       rows = 0;
+      Arrays.fill(cells, NONE);
     }
 
     boolean hasTable(int table) {
@@ -515,7 +504,7 @@ public final class TruePiece {
     }
 
     boolean hasColumn(int table, int column) {
-      return hasTable(table) && column >= 0 && column < columns[table];
+      return table >= 0 && table < tables && column >= 0 && column < columns[table];
     }
 
     boolean isPlainColumn(int table, int column) {
@@ -534,11 +523,12 @@ public final class TruePiece {
       return hasColumn(table, column) ? targets[slot(table, column)] : NONE;
     }
 
+    /** A column that the ROW's table has not holds none. */
     int cell(int row, int column) {
-      if (!hasRow(row) || !hasColumn(rowTable[row], column)) {
+      if (row < 0 || row >= rows || column < 0 || column >= COLUMNS_MOST) {
         return NONE;
       }
-      return cells[slot(row, column)];
+      return cells[row * COLUMNS_MOST + column];
     }
 
     int tableNamed(long name) {
@@ -667,7 +657,13 @@ public final class TruePiece {
       // One part more than can stand: reading it is what finds the FAULT.
       int most = TABLES_MOST + ROWS_MOST + 1;
       for (int part = 0; part < most && tape.fault == 0 && tape.kind != Tape.END; part++) {
-        readPart();
+        if (tape.kind == Tape.TABLE && store.tables < TABLES_MOST) {
+          readTable(store.tables);
+        } else if (tape.kind == Tape.ROW && store.rows < ROWS_MOST) {
+          readRow(store.rows);
+        } else {
+          tape.refuseToken();
+        }
       }
       if (tape.fault == 0) {
         joinLinks();
@@ -678,20 +674,8 @@ public final class TruePiece {
       return tape.fault == 0;
     }
 
-    private void readPart() {
-      if (tape.kind == Tape.TABLE && store.tables < TABLES_MOST) {
-        tape.advance();
-        readTable();
-      } else if (tape.kind == Tape.ROW && store.rows < ROWS_MOST) {
-        tape.advance();
-        readRow();
-      } else {
-        tape.refuseToken();
-      }
-    }
-
-    private void readTable() {
-      int table = store.tables;
+    private void readTable(int table) {
+      tape.advance();
       if (tape.kind == Tape.NAME && store.tableNamed(tape.word) != NONE) {
         tape.refuse(TOLD_ALREADY, tape.start);
       }
@@ -735,8 +719,8 @@ public final class TruePiece {
       }
     }
 
-    private void readRow() {
-      int row = store.rows;
+    private void readRow(int row) {
+      tape.advance();
       int table = tape.takeTable(store);
       if (!tape.take(':') || !store.hasTable(table)) {
         return;
@@ -768,7 +752,6 @@ public final class TruePiece {
         tape.refuseToken();
         return;
       }
-      store.cells[slot(row, column)] = NONE;
       if (tape.kind == '-') {
         tape.advance();
         return;
@@ -817,7 +800,7 @@ public final class TruePiece {
     /** Of each wish the ROWS for which it holds. */
     final int[] fitting;
     int bonds;
-    /** Of each bond the ROW for which it binds, or NONE: a wish's. */
+    /** Of each bond the ROW, as a bit, for which it binds; 0, always: a wish's. */
     final int[] owners;
     final int[] needs;
     final int[] helpers;
@@ -842,21 +825,21 @@ public final class TruePiece {
 
     void addWish(int table, int need, int rows) {
       addDemand(false, table, rows);
-      addBond(NONE, need, rows);
+      addBond(0, need, rows);
     }
 
     void addLaw(Store store, int table, int need, int linkTable, int column) {
       addDemand(true, table, 0);
       for (int row = 0; row < store.rows; row++) {
         if (store.rowTable[row] == table) {
-          addBond(row, need, store.linkersOf(row, linkTable, column));
+          addBond(1 << row, need, store.linkersOf(row, linkTable, column));
         }
       }
     }
 
     boolean wishesMetBy(int rows) {
       for (int bond = 0; bond < bonds; bond++) {
-        if (owners[bond] == NONE && Integer.bitCount(helpers[bond] & rows) < needs[bond]) {
+        if (owners[bond] == 0 && Integer.bitCount(helpers[bond] & rows) < needs[bond]) {
           return false;
         }
       }
@@ -864,12 +847,12 @@ public final class TruePiece {
     }
 
     boolean binds(int bond, int rows) {
-      return owners[bond] == NONE || has(rows, owners[bond]);
+      return owners[bond] == 0 || (owners[bond] & rows) != 0;
     }
 
     /** A law is content with all helpers that are left; a wish is not. */
     int need(int bond, int gone) {
-      if (owners[bond] == NONE) {
+      if (owners[bond] == 0) {
         return needs[bond];
       }
       return Math.min(needs[bond], Integer.bitCount(helpers[bond] & ~gone));
@@ -915,25 +898,19 @@ public final class TruePiece {
       demands.clear();
       tape.open(true);
       for (int i = 0; i <= WISHES_MOST && tape.fault == 0 && tape.kind != Tape.END; i++) {
-        readNext();
+        if (tape.kind == Tape.WISH && i < WISHES_MOST) {
+          readWish();
+        } else if (tape.kind == Tape.LAW && i < WISHES_MOST) {
+          readLaw();
+        } else {
+          tape.refuseToken();
+        }
       }
       return tape.fault == 0;
     }
 
-    private void readNext() {
-      boolean full = demands.count >= WISHES_MOST;
-      if (tape.kind == Tape.WISH && !full) {
-        tape.advance();
-        readWish();
-      } else if (tape.kind == Tape.LAW && !full) {
-        tape.advance();
-        readLaw();
-      } else {
-        tape.refuseToken();
-      }
-    }
-
     private void readWish() {
+      tape.advance();
       int need = readNeed();
       table = tape.takeTable(store);
       if (tape.fault != 0) {
@@ -950,6 +927,7 @@ public final class TruePiece {
     }
 
     private void readLaw() {
+      tape.advance();
       int first = tape.takeTable(store);
       tape.take(Tape.NEEDS);
       int need = readNeed();
@@ -1009,11 +987,38 @@ public final class TruePiece {
         tape.take(')');
         return rows;
       }
+      readPath();
       return readComparison();
     }
 
+    /** A path's NAMES lead from column to column; only the last one is no LINK. */
+    private void readPath() {
+      if (paths >= PATHS_MOST) {
+        tape.refuseToken();
+      }
+      paths++;
+      pathNames = 0;
+      int from = table;
+      while (tape.fault == 0 && pathNames < PATH_NAMES_MOST && tape.kind == Tape.NAME) {
+        int place = tape.start;
+        int column = store.columnNamed(from, tape.word);
+        path[pathNames] = column;
+        pathNames++;
+        from = store.target(from, column);
+        tape.advance();
+        if (column == NONE || (from != NONE) != (tape.kind == '.')) {
+          tape.refuse(NOT_THERE, place);
+        }
+        if (from == NONE) {
+          return;
+        }
+        tape.advance();
+      }
+      // Another NAME is due, and there is none, or one too many.
+      tape.refuseToken();
+    }
+
     private int readComparison() {
-      readPath();
       int sign = tape.kind;
       if (sign != '<' && sign != '>' && sign != '=') {
         tape.refuseToken();
@@ -1028,10 +1033,6 @@ public final class TruePiece {
         return 0;
       }
       tape.advance();
-      return rowsWhere(sign, bound);
-    }
-
-    private int rowsWhere(int sign, int bound) {
       int rows = 0;
       for (int row = 0; row < store.rows; row++) {
         if (store.rowTable[row] == table && compares(valueAlong(row), sign, bound)) {
@@ -1039,43 +1040,6 @@ public final class TruePiece {
         }
       }
       return rows;
-    }
-
-    private void readPath() {
-      if (paths >= PATHS_MOST) {
-        tape.refuseToken();
-      }
-      paths++;
-      pathNames = 0;
-      int from = table;
-      boolean more = tape.fault == 0;
-      while (more && pathNames <= PATH_NAMES_MOST) {
-        from = readStep(from);
-        more = tape.fault == 0 && tape.kind == '.';
-        if (more) {
-          tape.advance();
-        }
-      }
-    }
-
-    /** Reads a path's next NAME, of a column of a table: the table to which it leads, if any. */
-    private int readStep(int from) {
-      if (tape.kind != Tape.NAME || pathNames >= PATH_NAMES_MOST) {
-        tape.refuseToken();
-        return NONE;
-      }
-      int place = tape.start;
-      int column = store.columnNamed(from, tape.word);
-      int target = store.target(from, column);
-      tape.advance();
-      // What stands behind a NAME tells whether it is the last one, which may be no LINK.
-      if (column == NONE || (target != NONE) != (tape.kind == '.')) {
-        tape.refuse(NOT_THERE, place);
-        return NONE;
-      }
-      path[pathNames] = column;
-      pathNames++;
-      return target;
     }
 
     private int valueAlong(int row) {
@@ -1136,23 +1100,20 @@ public final class TruePiece {
       if (!isPiece(store.allRows() & ~gone)) {
         return NONE;
       }
-      rowsMost = store.rows;
       int found = NONE;
+      rowsMost = store.rows;
       for (int changes = 0; changes <= store.rows && found == NONE; changes++) {
         changesMost = changes;
         found = search(0, 0, gone);
       }
       // With nothing kept each ROW is a change: fewest changes are fewest ROWS.
-      return kept == 0 || found == NONE ? found : withFewestRows(Integer.bitCount(found));
-    }
-
-    private int withFewestRows(int most) {
-      int found = NONE;
-      for (int rows = 0; rows <= most && found == NONE; rows++) {
+      int most = kept == 0 ? NONE : Integer.bitCount(found) - 1;
+      int fewer = NONE;
+      for (int rows = 0; rows <= most && fewer == NONE; rows++) {
         rowsMost = rows;
-        found = search(0, 0, gone);
+        fewer = search(0, 0, gone);
       }
-      return found;
+      return fewer == NONE ? found : fewer;
     }
 
     /**
