@@ -475,9 +475,8 @@ public final class TruePiece {
     final int[] cells;
     /** Where on the TAPE each value's N stood. */
     final int[] places;
-    /** Of each ROW those to which it links, and those that it draws in, itself too. */
+    /** Of each ROW those to which it links. */
     final int[] links;
-    final int[] drawn;
 
     Store() {
       tableNames = new long[TABLES_MOST];
@@ -490,7 +489,6 @@ public final class TruePiece {
       cells = new int[ROWS_MOST * COLUMNS_MOST];
       places = new int[ROWS_MOST * COLUMNS_MOST];
       links = new int[ROWS_MOST];
-      drawn = new int[ROWS_MOST];
     }
 
     void clear() {
@@ -627,14 +625,6 @@ public final class TruePiece {
         for (int column = 0; column < COLUMNS_MOST; column++) {
           if (target(rowTable[row], column) != NONE && hasRow(cell(row, column))) {
             links[row] |= 1 << cell(row, column);
-          }
-        }
-        drawn[row] = links[row] | 1 << row;
-      }
-      for (int middle = 0; middle < rows; middle++) {
-        for (int row = 0; row < rows; row++) {
-          if (has(drawn[row], middle)) {
-            drawn[row] |= drawn[middle];
           }
         }
       }
@@ -1136,28 +1126,40 @@ public final class TruePiece {
       return found != NONE ? found : search(row + 1, in, out | 1 << row);
     }
 
-    /** With all ROWS that some others can't do without; NONE if one of these is out. */
+    /** Some ROWS with all that they can't do without; NONE if one of these is out. */
     private int settled(int some, int out) {
-      int before = some;
+      int in = some;
+      // Each pass but the last brings one ROW at least.
       for (int pass = 0; pass <= ROWS_MOST; pass++) {
-        int in = before;
+        int before = in;
         for (int row = 0; row < store.rows; row++) {
-          in |= has(before, row) ? store.drawn[row] : 0;
+          in |= has(in, row) ? store.links[row] : 0;
         }
-        for (int bond = 0; bond < demands.bonds; bond++) {
-          int open = demands.helpers[bond] & ~out;
-          int excess = Integer.bitCount(open) - demands.need(bond, gone);
-          if (demands.binds(bond, in) && excess < 0) {
+        in = withLastHelpers(in, out);
+        if (in == NONE || (in & out) != 0) {
+          return NONE;
+        }
+        if (in == before) {
+          return in;
+        }
+      }
+      return NONE;
+    }
+
+    /** A bond that has no more helpers than it asks for takes all of them; NONE if it has fewer. */
+    private int withLastHelpers(int some, int out) {
+      int in = some;
+      for (int bond = 0; bond < demands.bonds; bond++) {
+        int open = demands.helpers[bond] & ~out;
+        int excess = Integer.bitCount(open) - demands.need(bond, gone);
+        if (excess <= 0 && demands.binds(bond, in)) {
+          if (excess < 0) {
             return NONE;
           }
-          in |= demands.binds(bond, in) && excess == 0 ? open : 0;
+          in |= open;
         }
-        if (in == before || (in & out) != 0) {
-          return (in & out) != 0 ? NONE : in;
-        }
-        before = in;
       }
-      return before;
+      return in;
     }
 
     private boolean isWithinLimits(int in, int out) {

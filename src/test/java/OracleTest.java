@@ -6,7 +6,7 @@ public final class OracleTest {
   private static final int NONE = TruePiece.NONE;
 
   public static void main(String[] args) {
-    for (int seed = 0; seed < 400; seed++) {
+    for (int seed = 0; seed < 3000; seed++) {
       new OracleTest(new Random(seed), "store " + seed).run();
     }
     CHECK.finish("OracleTest");

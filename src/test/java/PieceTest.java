@@ -78,6 +78,13 @@ public final class PieceTest {
     // Row 3 is needed by 1 through w, and draws 0 in, which needs one by w in its turn.
     least(store, "law a needs 1 b by w; wish 1 a where x=2;", Check.bits(0, 1, 3, 5));
     least(store, "law a needs 1 b by z; wish 1 a where x=2;", Check.bits(1));
+    // Ten laws bind sixteen rows each: a ring of all.
+    StringBuilder ring = new StringBuilder("table a: x to a;");
+    for (int row = 0; row < 16; row++) {
+      ring.append("row a:#").append((row + 1) % 16).append(';');
+    }
+    least(ring.toString(), "law a needs 1 a by x;".repeat(10), 0);
+    least(ring.toString(), "law a needs 1 a by x;".repeat(9) + "wish 1 a;", 65535);
     TruePiece x = Check.with(store, "law a needs 3 b by z; wish 1 a where x=1;");
     x.gone(3);
     CHECK.due("all that are left", x.least(), Check.bits(0, 2, 4));

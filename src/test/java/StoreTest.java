@@ -16,6 +16,7 @@ public final class StoreTest {
     tooMany();
     names();
     links();
+    full();
     CHECK.finish("StoreTest");
   }
 
@@ -128,6 +129,10 @@ public final class StoreTest {
     CHECK.storeFault("table ^abcdefghi: x;", 1);
     CHECK.storeFault("table a: x; row a: ^1234567;", 1);
     CHECK.storeFault("table a: x; row a: ^12c;", 1);
+    CHECK.storeFault("table a: x; row a: ^1a;", 1);
+    CHECK.storeFault("table a: x; row a: ^1z", 1);
+    CHECK.storeFault("table a: x; row a: 1^{", 1);
+    CHECK.storeFault("table a: x; row a: 1^`", 1);
     CHECK.storeFault("table a: x; row a: 1^\u00e9;", 1);
     CHECK.storeFault("table a: x; row a: 1, ^?;", 1);
     CHECK.storeFault("table a: v,w,x,y,z, ^?", 1);
@@ -198,5 +203,48 @@ public final class StoreTest {
     CHECK.due("a row told later, of its own table", x.value(0, 1), 2);
     CHECK.due("a row told ahead", x.value(2, 0), 1);
     CHECK.due("a row told ahead, of its own table", x.value(2, 1), 0);
+  }
+
+  /** All limits at once, so that whatever counts one too far is found out. */
+  private static void full() {
+    StringBuilder text = new StringBuilder();
+    for (char name = 'a'; name <= 'e'; name++) {
+      text.append("table ").append(name).append(":v,w to ").append(name).append(",x to a,y,z;");
+    }
+    for (int row = 0; row < 16; row++) {
+      text.append("row ").append("abcde".charAt(row % 5)).append(":1,#0,#").append(row / 5).append(",-,");
+      text.append(row).append(";");
+    }
+    CHECK.storeRight(text.toString(), 16);
+    CHECK.storeFault(text + "^row a:1,-,-,-,-;", 2);
+    CHECK.storeFault(text + "^table f:x;", 2);
+    CHECK.storeFault(text + "^;", 2);
+    CHECK.storeFault(text + "^?", 1);
+    TruePiece x = Check.with(text.toString(), "wish 4 a; law a needs 16 e by x; wish 3 e where z > 0;");
+    for (int row = 0; row < 16; row++) {
+      CHECK.due("table", x.row(row, 0), row % 5);
+      CHECK.due("number", x.row(row, 1), row / 5);
+      CHECK.due("own link", x.value(row, 1), row % 5);
+      CHECK.due("link", x.value(row, 2), row / 5 * 5);
+      CHECK.due("last value", x.value(row, 4), row);
+      CHECK.due("beyond it", x.value(row, 5), NONE);
+      CHECK.due("shown beyond it", x.shown(row, 5), NONE);
+    }
+    CHECK.due("row 16", x.row(16, 0), NONE);
+    CHECK.due("value of row 16", x.value(16, 0), NONE);
+    CHECK.due("columns of the last table", x.about(14), 5);
+    CHECK.due("rows of the last table", x.about(24), 3);
+    CHECK.due("least", x.least(), Check.bits(0, 4, 5, 9, 10, 14, 15));
+    CHECK.due("gone 15", x.gone(15), false);
+    CHECK.due("gone 14", x.gone(14), true);
+    CHECK.due("least", x.least(), NONE);
+    CHECK.due("hide the last column", x.hide(4, 4, 1), true);
+    CHECK.due("shown", x.shown(14, 4), 43);
+    String[] ends = {"0", "9", "a", "z", " ", ";"};
+    for (String end : ends) {
+      // The 1200th byte is the last one; behind a number or a blank it is the end that is faulty.
+      String most = "table a: x; row a:" + " ".repeat(1181);
+      CHECK.storeFault(end.matches("[0-9 ]") ? most + end + "^" : most + "^" + end, 2);
+    }
   }
 }
