@@ -108,6 +108,7 @@ public final class TruePiece {
     Demands former = demands;
     demands = spareDemands;
     spareDemands = former;
+    demands.lose(goneRows);
     forgetPieces();
     return demands.count;
   }
@@ -154,6 +155,7 @@ public final class TruePiece {
       return false;
     }
     goneRows |= 1 << row;
+    demands.lose(goneRows);
     forgetPieces();
     return true;
   }
@@ -841,11 +843,13 @@ public final class TruePiece {
     }
 
     /** A law is content with all helpers that are left; a wish is not. */
-    int need(int bond, int gone) {
-      if (owners[bond] == 0) {
-        return needs[bond];
+    void lose(int gone) {
+      for (int bond = 0; bond < bonds; bond++) {
+        helpers[bond] &= ~gone;
+        if (owners[bond] != 0) {
+          needs[bond] = Math.min(needs[bond], Integer.bitCount(helpers[bond]));
+        }
       }
-      return Math.min(needs[bond], Integer.bitCount(helpers[bond] & ~gone));
     }
 
     private void addDemand(boolean law, int table, int rows) {
@@ -1078,7 +1082,7 @@ public final class TruePiece {
       }
       for (int bond = 0; bond < demands.bonds; bond++) {
         int helping = Integer.bitCount(demands.helpers[bond] & rows);
-        if (demands.binds(bond, rows) && helping < demands.need(bond, gone)) {
+        if (demands.binds(bond, rows) && helping < demands.needs[bond]) {
           return false;
         }
       }
@@ -1151,7 +1155,7 @@ public final class TruePiece {
       int in = some;
       for (int bond = 0; bond < demands.bonds; bond++) {
         int open = demands.helpers[bond] & ~out;
-        int excess = Integer.bitCount(open) - demands.need(bond, gone);
+        int excess = Integer.bitCount(open) - demands.needs[bond];
         if (excess <= 0 && demands.binds(bond, in)) {
           if (excess < 0) {
             return NONE;
@@ -1175,7 +1179,7 @@ public final class TruePiece {
       int summed = 0;
       for (int bond = 0; bond < demands.bonds; bond++) {
         int open = demands.helpers[bond] & ~out;
-        int lack = demands.need(bond, gone) - Integer.bitCount(open & atHand);
+        int lack = demands.needs[bond] - Integer.bitCount(open & atHand);
         if (lack > 0 && demands.binds(bond, in)) {
           most = Math.max(most, lack);
           // Bonds that share no helper can't be helped by one ROW.
