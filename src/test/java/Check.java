@@ -5,12 +5,33 @@ import java.util.Arrays;
 final class Check {
   private int wrong;
   private int asked;
+  private String sentence = "";
+  private int askedAhead;
+
+  /** What is asked from here on is asked for this sentence of the document. */
+  void sentence(String words) {
+    closeSentence();
+    sentence = words;
+    askedAhead = asked;
+  }
+
+  private void closeSentence() {
+    if (!sentence.isEmpty() && asked == askedAhead) {
+      wrong++;
+      System.out.println("nothing was asked for \"" + sentence + "\"");
+    }
+  }
 
   void due(String what, long got, long want) {
+    due(what, Long.toString(got), Long.toString(want));
+  }
+
+  void due(String what, String got, String want) {
     asked++;
-    if (got != want) {
+    if (!got.equals(want)) {
       wrong++;
-      System.out.println(what + " answered " + got + ", due is " + want);
+      String of = sentence.isEmpty() ? "" : "\"" + sentence + "\": ";
+      System.out.println(of + what + " answered " + got + ", due is " + want);
     }
   }
 
@@ -64,10 +85,10 @@ final class Check {
     return x;
   }
 
-  /** A ^ stands in the text where the fault is due. */
+  /** The first ^ stands in the text where the fault is due. */
   void storeFault(String marked, int code) {
     TruePiece x = new TruePiece();
-    String text = marked.replace("^", "");
+    String text = marked.replaceFirst("\\^", "");
     due("store " + marked, store(x, text), TruePiece.NONE);
     due("fault of " + marked, x.fault(0), code);
     due("place in " + marked, x.fault(1), marked.indexOf('^'));
@@ -82,7 +103,7 @@ final class Check {
 
   void wishFault(String store, String marked, int code) {
     TruePiece x = with(store, "");
-    String text = marked.replace("^", "");
+    String text = marked.replaceFirst("\\^", "");
     due("wishes " + marked, wishes(x, text), TruePiece.NONE);
     due("fault of " + marked, x.fault(0), code);
     due("place in " + marked, x.fault(1), marked.indexOf('^'));
@@ -104,6 +125,7 @@ final class Check {
   }
 
   void finish(String name) {
+    closeSentence();
     System.out.println(name + ": " + asked + " answers, " + wrong + " not as due");
     if (wrong != 0 || asked == 0) {
       System.exit(1);

@@ -21,7 +21,7 @@ public final class GarbageTest {
       spoiltStore(random);
       spoiltWishes(random);
     }
-    for (int seed = 0; seed < 300; seed++) {
+    for (int seed = 0; seed < 1000; seed++) {
       anyCalls(new Random(seed));
     }
     CHECK.finish("GarbageTest");
@@ -75,14 +75,17 @@ public final class GarbageTest {
   /** No answer is looked at but that there is one. */
   private static void anyCalls(Random random) {
     TruePiece x = new TruePiece();
-    for (int call = 0; call < 512; call++) {
+    int calls = 0;
+    while (calls < 470) {
       int form = random.nextInt(24);
       if (form >= 20 && x.end(0) == 0) {
         String text = form < 22 ? STORE : WISHES;
         text = random.nextInt(3) == 0 ? spoilt(text, random) : text;
         Check.type(x, text.getBytes(StandardCharsets.ISO_8859_1));
+        calls += 2 + (text.length() + 19) / 20;
       }
       anyCall(x, form, random);
+      calls++;
     }
     CHECK.due("calls ended", x.about(-1), TruePiece.NONE);
   }
