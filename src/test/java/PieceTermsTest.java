@@ -130,6 +130,14 @@ public final class PieceTermsTest {
     CHECK.due("the last can't go", x.gone(15), false);
     CHECK.due("the first can", x.gone(0), true);
     CHECK.due("all that are left", x.least(), 65534);
+    Check.wishes(x, "law a needs 16 a by x;".repeat(10));
+    CHECK.due("ten laws of sixteen rows each", x.least(), 0);
+    CHECK.due("all that are left", x.piece(65534), 1);
+    CHECK.due("all but one", x.piece(65532), 0);
+    CHECK.due("another one can go", x.gone(1), true);
+    CHECK.due("all that are left", x.piece(65532), 1);
+    x = Check.with("table a: x;" + "row a: 1;".repeat(15) + "row a: 2;", "wish 1 a where x = 2;");
+    CHECK.due("the last of 16", x.least(), 32768);
   }
 
   private static void least() {

@@ -147,6 +147,7 @@ public final class PromisesTest {
     Check.type(x, " ".repeat(1200));
     CHECK.due("1200", x.end(1200), 1200);
     CHECK.due("1201", x.end(1201), NONE);
+    cutAnywhere();
     CHECK.sentence("3: NONE, doing nothing, if it has not so many, or n is below 0");
     x = new TruePiece();
     CHECK.due("1 of none", x.end(1), NONE);
@@ -158,6 +159,22 @@ public final class PromisesTest {
     }
     CHECK.due("store", x.store(), 0);
     CHECK.due("1 of an emptied tape", x.end(1), NONE);
+  }
+
+  /** What stood behind the cut must not be read, be it the rest of a word or of a number. */
+  private static void cutAnywhere() {
+    String text = "table ab: cd, ef to ab;\nrow ab: 123456, #00;";
+    for (int n = 0; n <= text.length(); n++) {
+      TruePiece cut = new TruePiece();
+      Check.type(cut, text);
+      cut.end(n);
+      TruePiece alone = new TruePiece();
+      Check.type(alone, text.substring(0, n));
+      CHECK.due("store of " + n, cut.store(), alone.store());
+      CHECK.due("its fault", cut.fault(0), alone.fault(0));
+      CHECK.due("its place", cut.fault(1), alone.fault(1));
+      CHECK.due("no place is behind the cut", cut.fault(1) <= n, true);
+    }
   }
 
   private static void store() {
@@ -188,6 +205,7 @@ public final class PromisesTest {
     Check.wishes(x, "wish 2 b;");
     CHECK.due("with wishes, too", View.of(x), View.of(Check.with(STORE, "wish 2 b;")));
     // Nothing of a store shows through those that come behind it.
+    Check.store(x, STORE);
     Check.store(x, "table q: r; table p: s; row q: 1; row p: 2; row q: 3; row p: 4; row q: 5;");
     Check.wishes(x, "wish 2 p;");
     CHECK.due("no links are left", x.least(), Check.bits(1, 3));
@@ -226,11 +244,28 @@ public final class PromisesTest {
     CHECK.due("of the empty tape", x.wishes(), 0);
     CHECK.due("none", x.about(2), 0);
     CHECK.due("least of none", x.least(), 0);
+    formerWishes();
     x = used();
     Check.wishes(x, WISHES);
     CHECK.due("rows stay gone", x.about(3), 1);
     CHECK.due("the kept piece stays", x.about(4), Check.bits(0, 2, 3, 4));
     CHECK.due("columns stay hidden", x.shown(0, 0), 45);
+  }
+
+  /** Nothing of wishes shows through those that come behind them. */
+  private static void formerWishes() {
+    TruePiece x = Check.with(STORE, "");
+    for (int i = 0; i < 3; i++) {
+      CHECK.due("four", Check.wishes(x, "wish 1 a; wish 2 a; law a needs 2 b by z; wish 3 b;"), 4);
+      CHECK.due("all rows", x.least(), 31);
+    }
+    for (int i = 0; i < 3; i++) {
+      CHECK.due("one", Check.wishes(x, "wish 1 b where v = 1;"), 1);
+      CHECK.due("two rows", x.least(), Check.bits(0, 2));
+      CHECK.due("one is linked to", x.why(0), 2);
+      CHECK.due("one is a piece without a law", x.piece(Check.bits(0, 1, 2)), 1);
+      CHECK.due("there is no second wish", x.holds(1, 2), NONE);
+    }
   }
 
   private static void wishesFault() {

@@ -47,6 +47,8 @@ public final class StoreTermsTest {
     CHECK.due("its value", x.value(0, 0), 7);
     fault(start + blanks(1200 - start.length() - 1) + "^?", 1);
     fault(start + blanks(1200 - start.length()) + "^", 2);
+    fault(start.replace("7", blanks(1200 - start.length()) + "7") + "^", 2);
+    fault(start + blanks(1200 - start.length() - 1) + "^a", 2);
     Check.type(x, most);
     CHECK.due("no byte comes behind 1200", x.feed(0, 0, 0, 0, 0), NONE);
     CHECK.due("the text is as it was", x.store(), 1);
